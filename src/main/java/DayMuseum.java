@@ -589,12 +589,13 @@ public final class DayMuseum {
 
         /** A digit; NONE and a fault if none stands here. */
         int digit() {
-            if (!isDigit()) {
+            int sign = next();
+            if (sign < '0' || sign > '9') {
                 fail(CANT_STAND, place);
                 return NONE;
             }
             place++;
-            return bytes[place - 1] - '0';
+            return sign - '0';
         }
 
         /** The digits x and y; NONE and a fault if they don't stand here. */
@@ -1847,6 +1848,8 @@ public final class DayMuseum {
         private final int[] rows = new int[Days.MOST / 2];
         private final int[] weights = new int[Days.MOST / 2];
         private final int[] tally = new int[1 << PEOPLE];
+        /** The rows that the tally has. */
+        private int counted;
         private int size;
         private int left;
         private int who;
@@ -1905,7 +1908,11 @@ public final class DayMuseum {
             alike = left + 1;
             for (int t = 0; t < MINUTES; t++) {
                 for (int p = 0; p < PEOPLE; p++) {
-                    int many = people.isTold(p) ? mostAlike(p, t, alike) : alike;
+                    if (!people.isTold(p)) {
+                        continue;
+                    }
+                    int many = tallyUp(p, t, alike);
+                    wipeTally(p, t);
                     if (many < alike) {
                         alike = many;
                         who = p;
@@ -1917,15 +1924,23 @@ public final class DayMuseum {
         }
 
         /** The most days with one answer; counted no further than the bound, which is too many already. */
-        private int mostAlike(int p, int t, int bound) {
-            Arrays.fill(tally, 0);
+        private int tallyUp(int p, int t, int bound) {
             int many = 0;
+            counted = 0;
             for (int k = 0; k < size && many < bound; k++) {
                 int answer = answerOf(senses.seenPlans(VERSIONS * p + Days.versionIn(rows[k], p), t) & rows[k]);
                 tally[answer] += weights[k];
                 many = Math.max(many, tally[answer]);
+                counted++;
             }
             return many;
+        }
+
+        /** Answer by answer, as the whole tally is longer than most rows of days. */
+        private void wipeTally(int p, int t) {
+            for (int k = 0; k < counted; k++) {
+                tally[answerOf(senses.seenPlans(VERSIONS * p + Days.versionIn(rows[k], p), t) & rows[k])] = 0;
+            }
         }
 
         /** People in place of their versions. */
@@ -1934,12 +1949,13 @@ public final class DayMuseum {
         }
 
         private void keepMost() {
-            mostAlike(who, when, left + 1);
+            tallyUp(who, when, left + 1);
             int likely = 0;
             for (int answer = 0; answer < tally.length; answer++) {
                 likely = tally[answer] > tally[likely] ? answer : likely;
             }
             left = tally[likely];
+            wipeTally(who, when);
             int stay = 0;
             for (int k = 0; k < size; k++) {
                 int plan = VERSIONS * who + Days.versionIn(rows[k], who);
@@ -2079,7 +2095,7 @@ public final class DayMuseum {
             steps[spot] = 0;
             queue[0] = spot;
             int queued = 1;
-            for (int i = 0; i < queued; i++) {
+            for (int i = 0; i < queued && i < SPOTS; i++) {
                 for (int way = 0; way < 8; way += 2) {
                     int next = town.next(queue[i], way);
                     if (town.isPlain(next) && steps[next] == NEVER) {
