@@ -103,6 +103,10 @@ public final class WaysTest {
         Museum m = new Museum();
         Museum.due("nobody", m.x.met(0, 0, 0, 3), 0);
         Museum.due("no way", m.x.met(0, 0, 9, 3), -2);
+        m.plan(0, 0, "88");
+        m.plan(9, 0, "98");
+        Museum.due("the lowest person", m.x.met(78, 0, 98, 2), 1);
+        Museum.due("the highest person", m.x.met(78, 0, 89, 2), 0b1000000000);
         m.plan(2, 0, "10");
         m.plan(5, 0, "309w");
         m.plan(6, 0, "00.5n");
