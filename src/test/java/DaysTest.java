@@ -284,6 +284,22 @@ public final class DaysTest {
         m.law("v1(p=1&y=5)");
         Museum.due("b sees c at 06 or not", m.x.enough(0), 2);
         Museum.due("then the suns are left", m.x.enough(1), 2);
+        m = new Museum();
+        m.plan(0, 0, "00");
+        m.plan(0, 1, "90");
+        m.plan(1, 0, "01");
+        m.plan(2, 0, "91");
+        m.plan(2, 1, "55");
+        // b sees a or nobody, in as many days; behind nobody c may see a or not
+        m.law("v1(p=1|p=2)");
+        Museum.due("nobody is less than a", m.x.enough(0), 2);
+        Museum.due("then the suns are left", m.x.enough(1), 2);
+        m = new Museum();
+        m.plan(0, 0, "00");
+        m.plan(1, 0, "05");
+        m.plan(1, 1, "00");
+        m.plan(2, 0, "06");
+        m.plan(2, 1, "07");
         m.law("v1(p=9)");
         Museum.due("c is never seen", m.x.enough(0), 1);
         Museum.due("c's versions and the suns are left", m.x.enough(1), 4);

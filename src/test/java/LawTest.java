@@ -105,6 +105,15 @@ public final class LawTest {
         holds("1+2*3=7", true);
         holds("10-3-2=5", true);
         holds("20/3/2=3", true);
+        holds("10-2*3=4", true);
+        holds("20-12/4=17", true);
+        holds("20-7%4=17", true);
+        holds("2*9-4=14", true);
+        holds("2+6/3=4", true);
+        holds("6/3+2=4", true);
+        holds("1+7%4=4", true);
+        holds("7%4+1=4", true);
+        holds("2*3+4*5-6/2=23", true);
         holds("20/[3/2]=20", true);
         holds("2*7%4=2", true);
         holds("7%4*2=6", true);
@@ -128,6 +137,10 @@ public final class LawTest {
         holds("2=3", false);
         holds("!2=3", true);
         holds("!!2=2", true);
+        holds("!1<2", false);
+        holds("!2<1", true);
+        holds("!2>1", false);
+        holds("!1>2", true);
         holds("!1=1|1=1", true);
         holds("!(1=1|1=1)", false);
         holds("1=2|1=1&1=2", false);

@@ -159,6 +159,13 @@ public final class PlanTest {
         Museum.due("person 10", m.x.choose(10, 0), false);
         Museum.due("person -1", m.x.choose(-1, 0), false);
         Museum.due("person 4", m.x.choose(4, 0), false);
+        m.plan(4, 0, "00");
+        Museum.due("version 3 is not the next one's", m.x.choose(3, 3), false);
+        Museum.due("version 3 is not the next one's", m.plan(3, 3, "22"), -1);
+        Museum.due("version -1 is not the one's before", m.x.choose(4, -1), false);
+        Museum.due("the next one's plan stays", m.x.at(4, 0), 0);
+        m = new Museum();
+        m.plan(3, 0, "11");
         Museum.due("nobody else", m.x.count(14), -1);
         Museum.due("nobody else", m.x.count(24), -1);
         Museum.due("nobody else", m.x.count(44), -1);

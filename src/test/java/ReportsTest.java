@@ -7,6 +7,7 @@ public final class ReportsTest {
         takenOut();
         holding();
         slips();
+        lastMinute();
         told();
         Museum.end("ReportsTest");
     }
@@ -204,6 +205,20 @@ public final class ReportsTest {
         holds(m, "a45~5sb", 0);
     }
 
+    private static void lastMinute() {
+        Museum m = new Museum();
+        m.plan(0, 0, "55");
+        m.plan(9, 0, "55");
+        holds(m, "a95~9i00", 0);
+        holds(m, "a95~9i55", 1);
+        holds(m, "j95~9i00", 0);
+        holds(m, "j95~9wa55", 1);
+        holds(m, "j95~9f11", 0);
+        m.x.sun(1);
+        holds(m, "j95~9f11", 0);
+        holds(m, "j0~9f00", 1);
+    }
+
     private static void told() {
         Museum m = new Museum();
         Museum.due("none: how many hold", m.x.told(0), 0);
@@ -214,6 +229,13 @@ public final class ReportsTest {
         Museum.due("told(1)", m.x.told(1), 2);
         Museum.due("told(2)", m.x.told(2), -1);
         Museum.due("told(-1)", m.x.told(-1), -1);
+        m.x.choose(0, 1);
+        Museum.due("not the first", m.x.told(1), 2);
+        m.plan(0, 1, "99");
+        m.x.choose(0, 1);
+        Museum.due("the first", m.x.told(1), 0);
+        Museum.due("none", m.x.told(0), 0);
+        m.x.choose(0, 0);
         m.x.strike(4);
         m.x.strike(2);
         Museum.due("told(0)", m.x.told(0), 3);

@@ -16,6 +16,9 @@ public final class TownTest {
         Museum.due("its corner", m.x.count(121), 2);
         Museum.due("its other corner", m.x.count(145), 2);
         Museum.due("beside it", m.x.count(146), 0);
+        Museum.due("the upper corner first", new Museum().town("c0900"), 10);
+        Museum.due("the upper corner first", new Museum().town("c0703"), 5);
+        Museum.due("the right corner first", new Museum().town("c7131"), 5);
         Museum.due("the town before is gone", m.x.count(143), 2);
         Museum.due("line by line", m.town("#0099;.1188;c4455"), 100 - 64 + 4);
         Museum.due("border", m.x.count(190), 1);

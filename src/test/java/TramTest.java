@@ -116,6 +116,10 @@ public final class TramTest {
         Museum.due("found with another one", m.x.found(0, 0), true);
         Museum.due("then not with the first", m.x.count(31), -2);
         Museum.due("but with that one", m.x.count(30), 0);
+        Museum.due("whose it is", m.x.mayHave(0), 0b1);
+        Museum.due("found with the first again", m.x.found(1, 0), true);
+        Museum.due("then not with that one", m.x.count(30), -2);
+        Museum.due("and once more", m.x.found(0, 0), true);
         Museum.due("another ticket in its place", m.x.found(0, 1), true);
         Museum.due("is its", m.x.count(30), 1);
         Museum.due("missing", m.x.tickets(2), 4);
@@ -153,6 +157,9 @@ public final class TramTest {
         Museum.due("a ticket of another stop: no rows", m.x.tickets(1), 0);
         Museum.due("but it is found with one aboard", m.x.tickets(2), 4);
         Museum.due("nobody may have it", m.x.mayHave(2), 0);
+        m.x.found(0, 5);
+        Museum.due("the first ticket that was not sold", m.x.tickets(1), 0);
+        Museum.due("all are missing", m.x.tickets(2), 5);
         m.x.found(0, 7);
         Museum.due("a ticket that was not sold", m.x.tickets(1), 0);
         Museum.due("all are missing", m.x.tickets(2), 5);

@@ -156,5 +156,16 @@ public final class WaysTest {
         Museum.due("out of a wall one may step", m.x.paged(20, 0, 0), 5);
         Museum.due("out of a wall", m.x.paged(20, 0, 1), 1);
         Museum.due("out of a wall in a wall one may not", m.x.paged(55, 0, 0), -2);
+        m.plan(0, 0, "01");
+        Museum.due("the lowest person", m.x.paged(10, 0, 0), 0);
+        Museum.due("the lowest person", m.x.paged(10, 0, 1), 0);
+        m = new Museum();
+        String[] beside = {"54", "45", "34", "43"};
+        for (int p = 0; p < 4; p++) {
+            m.plan(p, 0, "44");
+            m.town("#0099;." + beside[p] + beside[p]);
+            Museum.due("off a wall to " + beside[p], m.x.paged(10 * (beside[p].charAt(1) - '0') + beside[p].charAt(0) - '0', 0, 1), 1);
+            m.town(".0000");
+        }
     }
 }
