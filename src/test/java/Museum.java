@@ -2,14 +2,28 @@
 final class Museum {
     private static int wrong;
     private static int asked;
+    private static String sentence = "";
 
     DayMuseum x = new DayMuseum();
+
+    /** What the document says, put ahead of the answers below it that are not due. */
+    static void says(String words) {
+        sentence = "\"" + words + "\": ";
+    }
 
     static void due(String call, long got, long want) {
         asked++;
         if (got != want) {
             wrong++;
-            System.out.println(call + " answered " + got + ", due is " + want);
+            System.out.println(sentence + call + " answered " + got + ", due is " + want);
+        }
+    }
+
+    static void due(String call, String got, String want) {
+        asked++;
+        if (!got.equals(want)) {
+            wrong++;
+            System.out.println(sentence + call + " answered " + got + ", due is " + want);
         }
     }
 
