@@ -12,12 +12,14 @@ public final class DaysEdgeTest {
         quarrelOfThree();
         quarrelOfFour();
         quarrelOverAllDays();
+        eachDayAlone();
         askNobody();
         askTies();
         askOfBestAlone();
         enoughEnds();
         enoughLeastBits();
         enoughFollows();
+        enoughOfMost();
         wrong();
         Museum.end("DaysEdgeTest");
     }
@@ -317,6 +319,37 @@ public final class DaysEdgeTest {
         Museum.due("as many", m.x.best(2), 162);
     }
 
+    /** Three reports that hold together in one day alone, whichever day it is: they don't quarrel. */
+    private static void eachDayAlone() {
+        Museum.says("of which in no DAY all hold: each of 72 DAYS in turn is the only one");
+        String[] as = {"00", "10", "20"};
+        String[] cs = {"05", "15"};
+        for (int day = 0; day < 72; day++) {
+            int[] of = {day / 24, day / 8 % 3, day / 4 % 2, day / 2 % 2, day % 2};
+            Museum m = new Museum();
+            for (int v = 0; v < 3; v++) {
+                m.plan(0, v, as[v]);
+                m.plan(1, v, v == of[1] ? as[of[0]] : "9" + (9 - v));
+            }
+            for (int v = 0; v < 2; v++) {
+                m.plan(2, v, cs[v]);
+                m.plan(3, v, v == of[3] ? cs[of[2]] : "8" + (9 - v));
+            }
+            m.law("a1(u=1)");
+            m.reports("a0sb;c0sd;b0f" + of[4] + "0");
+            Museum.due("day " + day + ": days", m.x.best(3), 72);
+            Museum.due("day " + day + ": hold", m.x.best(0), 3);
+            Museum.due("day " + day + ": as many", m.x.best(2), 1);
+            Museum.due("day " + day + ": no quarrel", m.x.quarrel(0), -2);
+            Museum.due("day " + day + ": the sun", m.x.best(1), of[4]);
+            for (int p = 0; p < 4; p++) {
+                Museum.due("day " + day + ": version of " + p, m.x.best(10 + p), of[p]);
+            }
+            m.reports("b0f" + (1 - of[4]) + "0");
+            Museum.due("day " + day + ": the suns quarrel", m.x.quarrel(4), 1);
+        }
+    }
+
     private static void askNobody() {
         Museum.says("-2: nobody is told");
         Museum m = new Museum();
@@ -473,6 +506,20 @@ public final class DaysEdgeTest {
         m.law("v2(t=5&p=1);v9(t=20&p=1&y=0)");
         Museum.due("by another version it would: questions", m.x.enough(0), 1);
         Museum.due("days", m.x.enough(1), 4);
+    }
+
+    private static void enoughOfMost() {
+        Museum.says("of 1458 DAYS");
+        Museum m = people(3, 3, 3, 3, 3, 3, 1);
+        // g at (6, 1) sees those of a to e that are in version 1, and f always
+        m.law("v9(p=6&t=1)");
+        m.plan(6, 0, "61");
+        Museum.due("of", m.x.ask(3), 1458);
+        Museum.due("who", m.x.ask(0), 6);
+        Museum.due("when", m.x.ask(1), 1);
+        Museum.due("two versions of five people, three of f, two suns", m.x.ask(2), 192);
+        Museum.due("questions", m.x.enough(0), 1);
+        Museum.due("days", m.x.enough(1), 192);
     }
 
     private static void wrong() {

@@ -21,6 +21,8 @@ public final class FaceTest {
         "int count(int)",
     };
 
+    private static final Set<Class<?>> STATIC = Set.of(int.class, long.class, boolean.class, char.class, String.class);
+
     public static void main(String[] args) {
         Set<String> due = new TreeSet<>(Set.of(FACE));
         Set<String> names = new TreeSet<>();
@@ -42,7 +44,32 @@ public final class FaceTest {
             Museum.due("field " + field.getName(), isPrivate != field.getName().equals("NONE"), true);
         }
         nothingElse(DayMuseum.class, names);
+        fields(DayMuseum.class);
+        Museum.due("no class is local or has no name", DayMuseum.class.getNestMembers().length,
+            DayMuseum.class.getDeclaredClasses().length + 1);
         Museum.end("FaceTest");
+    }
+
+    /** Rules 3, 5 and 11 of LANGUAGE.md: types, static fields, some twenty fields in a class. */
+    private static void fields(Class<?> of) {
+        int many = 0;
+        for (Field field : of.getDeclaredFields()) {
+            String name = of.getName() + "." + field.getName();
+            Class<?> type = field.getType();
+            Class<?> part = type.isArray() ? type.getComponentType() : type;
+            if (Modifier.isStatic(field.getModifiers())) {
+                Museum.due(name + " is final", Modifier.isFinal(field.getModifiers()), true);
+                Museum.due(name + " is of " + type, STATIC.contains(part), true);
+            } else {
+                many++;
+                boolean own = of.getNestHost() == type.getNestHost();
+                Museum.due(name + " is of " + type, part.isPrimitive() || own, true);
+            }
+        }
+        Museum.due("fields of " + of.getName(), many <= 20, true);
+        for (Class<?> inside : of.getDeclaredClasses()) {
+            fields(inside);
+        }
     }
 
     private static String told(Method method) {

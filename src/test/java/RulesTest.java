@@ -14,7 +14,9 @@ public final class RulesTest {
         "\\bequals\\b", "\\bhashCode\\b", "\\btoString\\b", "Exact\\b", "\\bthis\\.\\w+\\(", "static \\{", "@\\w+",
         "\\bSystem\\.(?!arraycopy\\b)", "\\bArrays\\.(?!copyOf\\b|copyOfRange\\b|fill\\b)",
         "\\bMath\\.(?!min\\b|max\\b|abs\\b)", "\\b(Integer|Long)\\.(?!bitCount\\b)", "^import (?!java\\.util\\.Arrays;)",
-        "\\bprotected\\b", "^    (?!private|public|\\}|/\\*\\*|$|  )", "[^\\x00-\\x7f]",
+        "\\bprotected\\b", "\\b(double|float|var|Object|Thread|Random|Class)\\b", "\\b(instanceof|record|native|volatile)\\b",
+        "for \\(;;\\)|while \\(true\\)", "new \\w+\\(.*\\) \\{", "\\w\\.(clone|wait|notify|getClass|forEach|stream)\\(",
+        "^    (?!private|public|\\}|/\\*\\*|$|  )", "[^\\x00-\\x7f]",
     };
     private static final Pattern METHOD = Pattern.compile("^ {4}( {4})?(?!private final|private static final)[a-z][\\w\\[\\] ]* \\w+\\((.*)\\) \\{$");
 
