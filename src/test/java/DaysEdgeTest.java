@@ -108,6 +108,14 @@ public final class DaysEdgeTest {
         m.reports("b0i11;a0~0i01;a0i02");
         Museum.due("both of a's and b's", m.x.best(0), 2);
         Museum.due("a's least", m.x.best(10), 1);
+        m = people(1, 2, 2, 1, 3);
+        m.reports("b0i11;c0i20;e0i41");
+        Museum.due("one version beside two, and three: hold", m.x.best(0), 3);
+        Museum.due("as many", m.x.best(2), 2);
+        Museum.due("b", m.x.best(11), 1);
+        Museum.due("c", m.x.best(12), 0);
+        Museum.due("d", m.x.best(13), 0);
+        Museum.due("e", m.x.best(14), 1);
         m = people(2, 2);
         m.reports("a0i01;b0i11;a0i00;b0i10");
         Museum.due("any", m.x.best(2), 8);
@@ -355,6 +363,7 @@ public final class DaysEdgeTest {
         Museum m = new Museum();
         Museum.due("who", m.x.ask(0), -2);
         Museum.due("when", m.x.ask(1), -2);
+        Museum.due("all days, as nothing parts them", m.x.ask(2), 2);
         Museum.due("days", m.x.ask(3), 2);
         Museum.says("or nobody is told");
         Museum.due("questions", m.x.enough(0), 0);
@@ -416,6 +425,13 @@ public final class DaysEdgeTest {
         Museum.due("at most", m.x.ask(2), 2);
         Museum.due("enough: questions", m.x.enough(0), 1);
         Museum.due("enough: days", m.x.enough(1), 2);
+        Museum.says("two DAYS, which a question parts");
+        m.reports("a0f10");
+        Museum.due("of", m.x.ask(3), 2);
+        Museum.due("at most", m.x.ask(2), 1);
+        Museum.due("enough: questions", m.x.enough(0), 1);
+        Museum.due("enough: days", m.x.enough(1), 1);
+        m.x.strike(2);
         Museum.says("one DAY is left");
         m.reports("b1i01;a0f10");
         Museum.due("one", m.x.ask(3), 1);

@@ -242,6 +242,11 @@ public final class LawEdgeTest {
         holds("1<2", true);
         holds("2>1", true);
         holds("1>1", false);
+        holds("!1<2", false);
+        holds("!2<1", true);
+        holds("!2>1", false);
+        holds("!1>2", true);
+        holds("!1=1", false);
     }
 
     private static void names() {

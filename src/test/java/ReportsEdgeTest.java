@@ -463,6 +463,9 @@ public final class ReportsEdgeTest {
         Museum.due("all 20", m.x.told(0), 20);
         m.reports("b0i00");
         Museum.due("the last does not", m.x.told(1), 20);
+        m.x.gives(0);
+        Museum.due("the only one does not", m.x.told(1), 0);
+        Museum.due("none holds", m.x.told(0), 0);
         for (int what : new int[] {-1, 2, Integer.MAX_VALUE, Integer.MIN_VALUE}) {
             Museum.due("told(" + what + ")", m.x.told(what), -1);
         }

@@ -365,6 +365,9 @@ public final class TramEdgeTest {
         m.x.found(3, 4);
         Museum.due("found", m.x.mayHave(4), 0b1000);
         Museum.due("the others", m.x.mayHave(2), 0b10100);
+        m.x.found(0, 0);
+        Museum.due("found with the first", m.x.mayHave(0), 0b1);
+        Museum.due("the other one's", m.x.mayHave(1), 0b10);
         m.x.found(0, 4);
         Museum.due("found with one that can't have it", m.x.mayHave(4), 0);
         Museum.due("no rows", m.x.mayHave(0), 0);
