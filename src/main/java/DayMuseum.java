@@ -1176,7 +1176,7 @@ public final class DayMuseum {
             return 0;
         }
 
-        /** What the orders leave on the stack; 0 as soon as one is REFUSED, which is no for a C. Leaps go ahead only. */
+        /** What the orders leave on the stack; 0 as soon as one is REFUSED, which is no for a C. Leaps go ahead only, so it ends. */
         private int run(int from, int to) {
             int top = -1;
             for (int i = from; i < to; i++) {
@@ -1189,7 +1189,7 @@ public final class DayMuseum {
                     stack[top] = 1 - stack[top];
                 } else if (order == IF_SO || order == IF_NOT) {
                     if ((stack[top] != 0) == (order == IF_SO)) {
-                        i = of - 1;
+                        i = of > i ? of - 1 : i;
                     } else {
                         top--;
                     }
